@@ -41,6 +41,7 @@ public final class ClassifyRules {
     private int rules;
     private final int[] keptWith;
     private final int[] fallingWith;
+    private final int[] leftWith;
 
     private int answers;
     private final int[] given;
@@ -61,6 +62,7 @@ public final class ClassifyRules {
         shareDown = new int[MAX_CODES];
         keptWith = new int[PAIRS];
         fallingWith = new int[PAIRS];
+        leftWith = new int[PAIRS];
         given = new int[QUESTIONS];
         order = new int[QUESTIONS];
         precedentCode = new int[MAX_PRECEDENTS];
@@ -89,6 +91,9 @@ public final class ClassifyRules {
         shareUp[place] = 0;
         shareDown[place] = 1;
         codes++;
+        for (int pair = 0; pair < PAIRS; pair++) {
+            leftWith[pair] = leftByRules(pair);
+        }
         return codes;
     }
 
@@ -120,6 +125,7 @@ public final class ClassifyRules {
         } else {
             fallingWith[pair] |= 1 << place;
         }
+        leftWith[pair] = leftByRules(pair);
         rules++;
         return rules;
     }
@@ -157,7 +163,7 @@ public final class ClassifyRules {
     }
 
     public int needed() {
-        return neededFor(leftSet(), openQuestions(), QUESTIONS);
+        return neededFor(leftSet(), openQuestions(), 1, QUESTIONS);
     }
 
     public int found() {
@@ -366,14 +372,14 @@ public final class ClassifyRules {
         given[question] = NONE;
     }
 
-    /** A question without an answer lets no code fall. */
-    private int leaves(int question, int answer) {
-        if (!isQuestion(question) || !isAnswer(answer)) {
-            return everyCode();
-        }
-        int pair = pairOf(question, answer);
+    private int leftByRules(int pair) {
         int kept = keptWith[pair] == 0 ? everyCode() : keptWith[pair];
         return kept & ~fallingWith[pair];
+    }
+
+    /** A question without an answer lets no code fall. */
+    private int leaves(int question, int answer) {
+        return isQuestion(question) && isAnswer(answer) ? leftWith[pairOf(question, answer)] : everyCode();
     }
 
     private int leftSet() {
@@ -395,9 +401,10 @@ public final class ClassifyRules {
     }
 
     private boolean parts(int question, int set) {
-        int leftByFirst = set & leaves(question, 0);
+        int pair = pairOf(question, 0);
+        int leftByFirst = set & leftWith[pair];
         for (int answer = 1; answer < ANSWERS; answer++) {
-            if ((set & leaves(question, answer)) != leftByFirst) {
+            if ((set & leftWith[pair + answer]) != leftByFirst) {
                 return true;
             }
         }
@@ -418,16 +425,17 @@ public final class ClassifyRules {
     }
 
     /**
-     * How many questions are needed for the set, or the limit if they are not fewer.
+     * How many questions are needed for the set: exactly if they are between the floor
+     * and the limit; else the limit for more, and something up to the floor for fewer.
      *
      * A question that does not part a set parts no set within it, so only the
      * parting ones are handed on, and never more than all of them are needed.
-     * The limit falls by one with each question asked and ends the depth at 1.
+     * The limit falls by one with each question asked, and at 1 none is asked.
      */
-    private int neededFor(int set, int open, int limit) {
+    private int neededFor(int set, int open, int floor, int limit) {
         int parting = partingOf(set, open);
         int fewest = Math.min(limit, Integer.bitCount(parting));
-        for (int question = 0; question < QUESTIONS && fewest > 1; question++) {
+        for (int question = 0; question < QUESTIONS && fewest > floor; question++) {
             if (contains(parting, question)) {
                 fewest = Math.min(fewest, neededWith(question, set, parting, fewest));
             }
@@ -440,7 +448,8 @@ public final class ClassifyRules {
         int others = open & ~(1 << question);
         int worst = 0;
         for (int answer = 0; answer < ANSWERS && worst + 1 < limit; answer++) {
-            int after = neededFor(set & leaves(question, answer), others, limit - 1);
+            // What needs no more than the worst so far changes nothing: it is the floor.
+            int after = neededFor(set & leaves(question, answer), others, Math.max(worst, 1), limit - 1);
             worst = Math.max(worst, after);
         }
         return worst + 1;
