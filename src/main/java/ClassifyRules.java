@@ -78,11 +78,12 @@ public final class ClassifyRules {
         if (!isNumber(code) || specific < 0 || specific > MAX_SPECIFIC) {
             throw new IllegalArgumentException("no such code, or not so specific");
         }
-        if (placeOf(code) != NONE) {
-            return 0;
-        }
+        // What throws comes before any answer: with 12 a code that is one throws too.
         if (codes >= MAX_CODES) {
             throw new IllegalStateException("there are 12 codes");
+        }
+        if (placeOf(code) != NONE) {
+            return 0;
         }
         int place = howManyBelow(code);
         makeRoomAt(place);
@@ -113,12 +114,13 @@ public final class ClassifyRules {
         if (!isQuestion(question) || !isAnswer(answer) || place == NONE) {
             throw new IllegalArgumentException("no such question, answer or code");
         }
+        // What throws comes before any answer: with 60 a rule that is there throws too.
+        if (rules >= MAX_RULES) {
+            throw new IllegalStateException("there are 60 rules");
+        }
         int pair = pairOf(question, answer);
         if (contains(keptWith[pair] | fallingWith[pair], place)) {
             return 0;
-        }
-        if (rules >= MAX_RULES) {
-            throw new IllegalStateException("there are 60 rules");
         }
         if (keeps) {
             keptWith[pair] |= 1 << place;

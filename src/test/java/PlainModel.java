@@ -47,10 +47,10 @@ final class PlainModel {
 
     int code(int code, int specific) {
         argument(within(code, 1, 999999) && within(specific, 0, 100));
+        room(codes.size() < 12);
         if (codes.containsKey(code)) {
             return 0;
         }
-        room(codes.size() < 12);
         codes.put(code, new Code(specific));
         return codes.size();
     }
@@ -66,12 +66,12 @@ final class PlainModel {
 
     int rule(int question, int answer, int code, boolean keeps) {
         argument(within(question, 0, 4) && within(answer, 0, 3) && codes.containsKey(code));
+        room(rules.size() < 60);
         for (Rule rule : rules) {
             if (rule.question == question && rule.answer == answer && rule.code == code) {
                 return 0;
             }
         }
-        room(rules.size() < 60);
         rules.add(new Rule(question, answer, code, keeps));
         return rules.size();
     }

@@ -81,12 +81,18 @@ public final class PromisesTest {
         code(x, 1, 3);
         for (int n = 3; n <= 12; n++) {
             same("code " + n, x.code(n, 0), n);
+            if (n < 12) {
+                same("one that is there, of " + n, x.code(n, 100), 0);
+            }
         }
-        same("one that is there, of 12", x.code(5, 0), 0);
+        badState("one that is there, of 12", () -> x.code(5, 100));
+        badState("the first that is there, of 12", () -> x.code(1, 0));
+        badArgument("one that is there, of 12, and wrongly specific", () -> x.code(5, 101));
         badState("the 13th", () -> x.code(20, 0));
         badArgument("the 13th and wrong", () -> x.code(0, 0));
         badArgument("the 13th and wrongly specific", () -> x.code(20, -1));
         left(x, 1, 3, 4, 5, 6, 7, 8, 9, 10, 11, 12, 999999);
+        code(x, 1, 3);
     }
 
     /** Codes that come later stand among those that are there, with all that was said of these. */
@@ -149,12 +155,19 @@ public final class PromisesTest {
         same("nothing changed", x.count(1), 0);
         for (int n = 0; n < 60; n++) {
             same("rule " + n, x.rule(n / 12, n % 4, n % 12 + 1, n % 2 == 0), n + 1);
+            if (n < 59) {
+                same("rule " + n + " once more", x.rule(n / 12, n % 4, n % 12 + 1, n % 2 == 0), 0);
+                same("rule " + n + " the other way", x.rule(n / 12, n % 4, n % 12 + 1, n % 2 != 0), 0);
+            }
         }
-        same("one that is there", x.rule(0, 0, 1, true), 0);
-        same("one that is there the other way", x.rule(4, 3, 12, true), 0);
+        badState("one that is there, of 60", () -> x.rule(0, 0, 1, true));
+        badState("one that is there the other way, of 60", () -> x.rule(4, 3, 12, true));
         badState("the 61st", () -> x.rule(0, 1, 1, true));
         badArgument("the 61st and wrong", () -> x.rule(0, 4, 1, true));
         same("count(1)", x.count(1), 60);
+        x.answer(0, 1);
+        x.answer(4, 3);
+        left(x, 1, 3, 5, 7, 9, 11);
     }
 
     /** An answer that keeps some code leaves the kept ones alone, even where none of them is LEFT. */
