@@ -1,51 +1,5 @@
 /** Each promise of the document: ordinary inputs, the edges that it names, and wrong inputs. */
-public final class PromisesTest {
-    private static final int NONE = ClassifyRules.NONE;
-    private static final int LOW = Integer.MIN_VALUE;
-    private static final int HIGH = Integer.MAX_VALUE;
-
-    private final Checks checks = new Checks();
-    private String at = "";
-
-    private void same(String what, Object got, Object due) {
-        checks.same(at + ": " + what, got, due);
-    }
-
-    private void badArgument(String what, Checks.Call call) {
-        checks.badArgument(at + ": " + what, call);
-    }
-
-    private void badState(String what, Checks.Call call) {
-        checks.badState(at + ": " + what, call);
-    }
-
-    /** Codes 1 .. n, none more specific than another. */
-    private static ClassifyRules withCodes(int n) {
-        ClassifyRules x = new ClassifyRules();
-        for (int code = 1; code <= n; code++) {
-            x.code(code, 0);
-        }
-        return x;
-    }
-
-    private void left(ClassifyRules x, int... due) {
-        for (int i = 0; i < due.length; i++) {
-            same("left(" + i + ")", x.left(i), due[i]);
-        }
-        same("left(" + due.length + ")", x.left(due.length), NONE);
-        same("count(3)", x.count(3), due.length);
-    }
-
-    private void code(ClassifyRules x, int found, int why) {
-        same("found()", x.found(), found);
-        same("why()", x.why(), why);
-    }
-
-    private void next(ClassifyRules x, int question, int needed) {
-        same("question()", x.question(), question);
-        same("needed()", x.needed(), needed);
-    }
-
+public final class PromisesTest extends Looks {
     private void newObject() {
         ClassifyRules x = new ClassifyRules();
         for (int what = 0; what <= 6; what++) {
@@ -537,41 +491,41 @@ public final class PromisesTest {
     }
 
     private void all() {
-        at = "promise 1";
+        at("promise 1");
         newObject();
-        at = "promise 2";
+        at("promise 2");
         code();
         codeBetween();
-        at = "promise 3";
+        at("promise 3");
         share();
-        at = "promise 4";
+        at("promise 4");
         rule();
         ruleLeaves();
-        at = "promise 5";
+        at("promise 5");
         answer();
-        at = "promise 6";
+        at("promise 6");
         question();
-        at = "promise 7";
+        at("promise 7");
         needed();
         neededLater();
-        at = "promises 8 and 9";
+        at("promises 8 and 9");
         foundAndWhy();
-        at = "promise 10";
+        at("promise 10");
         left();
-        at = "promise 11";
+        at("promise 11");
         emptied();
-        at = "promise 12";
+        at("promise 12");
         explain();
-        at = "promise 13";
+        at("promise 13");
         precedent();
         precedentHolds();
-        at = "promise 14";
+        at("promise 14");
         contradicts();
-        at = "promise 15";
+        at("promise 15");
         day();
-        at = "promise 16";
+        at("promise 16");
         count();
-        checks.end();
+        end();
     }
 
     public static void main(String[] args) {
